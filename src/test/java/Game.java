@@ -1,0 +1,88 @@
+import java.nio.charset.StandardCharsets;
+
+/** An OrderSettler that is given texts and names instead of buffers and numbers. */
+final class Game {
+    final OrderSettler settler = new OrderSettler();
+
+    Game() {
+    }
+
+    Game(String map) {
+        load(map);
+    }
+
+    /** Feeds a text, filled up with a byte that no text may have. */
+    void feed(String text) {
+        feed(settler, text.getBytes(StandardCharsets.ISO_8859_1));
+    }
+
+    static void feed(OrderSettler settler, byte[] bytes) {
+        for (int i = 0; i < bytes.length; i += 20) {
+            settler.feed(word(bytes, i), word(bytes, i + 4), word(bytes, i + 8), word(bytes, i + 12),
+                    word(bytes, i + 16));
+        }
+    }
+
+    static int word(byte[] bytes, int at) {
+        int word = 0;
+        for (int i = at; i < at + 4; i++) {
+            word = word << 8 | (i < bytes.length ? bytes[i] & 255 : '#');
+        }
+        return word;
+    }
+
+    int load(String map) {
+        feed(map);
+        return settler.load(map.length());
+    }
+
+    int tell(String text) {
+        feed(text);
+        return settler.tell(text.length());
+    }
+
+    /** The number of an area. */
+    int at(String name) {
+        feed(name);
+        return settler.named(name.length());
+    }
+
+    int result(String name, int what) {
+        return settler.result(at(name), what);
+    }
+
+    String units() {
+        return output(settler.writeUnits());
+    }
+
+    String orders() {
+        return output(settler.writeOrders());
+    }
+
+    String output(int length) {
+        StringBuilder text = new StringBuilder();
+        for (int i = 0; i < length; i++) {
+            text.append((char) settler.outputByte(i));
+        }
+        return text.toString();
+    }
+
+    /** Loading this map must fail with this error. */
+    void refusesMap(String map, int code, int position) {
+        feed(map);
+        Check.fails("load of " + map, IllegalStateException.class, () -> settler.load(map.length()));
+        checkError(map, code, position);
+    }
+
+    /** Telling this text must fail with this error. */
+    void refuses(String text, int code, int position) {
+        feed(text);
+        Check.fails("tell of " + text, IllegalStateException.class, () -> settler.tell(text.length()));
+        checkError(text, code, position);
+    }
+
+    private void checkError(String text, int code, int position) {
+        Check.equal("errorCode() of " + text, code, settler.errorCode());
+        Check.equal("errorPosition() of " + text, position, settler.errorPosition());
+    }
+}
