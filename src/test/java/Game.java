@@ -67,22 +67,24 @@ final class Game {
         return text.toString();
     }
 
-    /** Loading this map must fail with this error. */
-    void refusesMap(String map, int code, int position) {
+    /** Loading this map must fail with this error, at the place of the sign ^, which is left out. */
+    void refusesMap(String marked, int code) {
+        String map = marked.replace("^", "");
         feed(map);
-        Check.fails("load of " + map, IllegalStateException.class, () -> settler.load(map.length()));
-        checkError(map, code, position);
+        Check.fails("load of " + marked, IllegalStateException.class, () -> settler.load(map.length()));
+        checkError(marked, code);
     }
 
-    /** Telling this text must fail with this error. */
-    void refuses(String text, int code, int position) {
+    /** Telling this text must fail with this error, at the place of the sign ^, which is left out. */
+    void refuses(String marked, int code) {
+        String text = marked.replace("^", "");
         feed(text);
-        Check.fails("tell of " + text, IllegalStateException.class, () -> settler.tell(text.length()));
-        checkError(text, code, position);
+        Check.fails("tell of " + marked, IllegalStateException.class, () -> settler.tell(text.length()));
+        checkError(marked, code);
     }
 
-    private void checkError(String text, int code, int position) {
-        Check.equal("errorCode() of " + text, code, settler.errorCode());
-        Check.equal("errorPosition() of " + text, position, settler.errorPosition());
+    private void checkError(String marked, int code) {
+        Check.equal("errorCode() of " + marked, code, settler.errorCode());
+        Check.equal("errorPosition() of " + marked, marked.indexOf('^'), settler.errorPosition());
     }
 }
