@@ -58,9 +58,10 @@ public final class OrderSettler {
     private final byte[] input = new byte[INPUT_ROOM];
     private int inputLength = 0;
     private final Output output = new Output();
-    private final TextReader text = new TextReader(input);
-    private final MapReader mapReader = new MapReader(text);
-    private final TurnReader turnReader = new TurnReader(text);
+    private int errorCode = 0;
+    private int errorPosition = NONE;
+    private final MapReader mapReader = new MapReader();
+    private final TurnReader turnReader = new TurnReader();
     private final Judge judge = new Judge();
     private final State[] past = new State[MAX_UNDO];
     private int undoable = 0;
@@ -92,7 +93,9 @@ public final class OrderSettler {
     public int load(int length) throws IllegalArgumentException, IllegalStateException {
         requireLength(length, 0);
         inputLength = 0;
-        if (!mapReader.readMap(length, spareBoard, draft)) {
+        boolean read = mapReader.readMap(input, length, spareBoard, draft);
+        noteError(mapReader);
+        if (!read) {
             throw new IllegalStateException("the map has an error");
         }
         Board loaded = spareBoard;
@@ -107,7 +110,8 @@ public final class OrderSettler {
         requireLength(length, 0);
         inputLength = 0;
         draft.copyFrom(now);
-        int count = turnReader.readAll(length, board, draft);
+        int count = turnReader.readAll(input, length, board, draft);
+        noteError(turnReader);
         if (count == NONE) {
             throw new IllegalStateException("the text has an error");
         }
@@ -116,11 +120,11 @@ public final class OrderSettler {
     }
 
     public int errorCode() {
-        return text.errorCode;
+        return errorCode;
     }
 
     public int errorPosition() {
-        return text.errorPosition;
+        return errorPosition;
     }
 
     // ---- map
@@ -475,6 +479,11 @@ public final class OrderSettler {
         return packed;
     }
 
+    private void noteError(TextReader reader) {
+        errorCode = reader.foundCode;
+        errorPosition = reader.foundPosition;
+    }
+
     private void adoptDraft() {
         State adopted = draft;
         draft = now;
@@ -547,7 +556,7 @@ public final class OrderSettler {
         return sum;
     }
 
-    /** The bits of a float that is 0 or a normal one above 0, as all shares are. */
+    /** The bits of a normal float from 0 to 1, as all shares are. */
     private static int floatBits(float value) {
         if (!(value > 0)) {
             return 0;
@@ -558,14 +567,10 @@ public final class OrderSettler {
             rest *= 2;
             exponent--;
         }
-        for (int i = 0; i < 127 && rest >= 2; i++) {
-            rest /= 2;
-            exponent++;
-        }
         return (exponent << 23) + (int) ((rest - 1) * (1 << 23));
     }
 
-    /** The bits of a double that is 0 or a normal one above 0, as the unevenness is. */
+    /** The bits of a normal double from 0 to 1, as the unevenness is. */
     private static long doubleBits(double value) {
         if (!(value > 0)) {
             return 0;
@@ -575,10 +580,6 @@ public final class OrderSettler {
         for (int i = 0; i < 1022 && rest < 1; i++) {
             rest *= 2;
             exponent--;
-        }
-        for (int i = 0; i < 1023 && rest >= 2; i++) {
-            rest /= 2;
-            exponent++;
         }
         return (exponent << 52) + (long) ((rest - 1) * (1L << 52));
     }
@@ -635,13 +636,13 @@ public final class OrderSettler {
     }
 
     /** Reads a text token by token, and keeps where it has its error. */
-    private static final class TextReader {
+    private abstract static class TextReader {
         private static final int END = 0;
         private static final int WORD = 1;
         private static final int SIGN = 2;
         private static final int OTHER = 3;
 
-        private final byte[] bytes;
+        private byte[] bytes = new byte[0];
         private int length = 0;
         private int kind = END;
         private int behind = 0;
@@ -649,18 +650,15 @@ public final class OrderSettler {
         private long packed = 0;
         int start = 0;
         int nameStart = 0;
-        int errorCode = 0;
-        int errorPosition = NONE;
+        int foundCode = 0;
+        int foundPosition = NONE;
 
-        TextReader(byte[] bytes) {
-            this.bytes = bytes;
-        }
-
-        void begin(int textLength) {
-            length = Math.min(textLength, bytes.length);
+        void begin(byte[] text, int textLength) {
+            bytes = text;
+            length = Math.min(textLength, text.length);
             behind = 0;
-            errorCode = 0;
-            errorPosition = NONE;
+            foundCode = 0;
+            foundPosition = NONE;
             advance();
         }
 
@@ -719,8 +717,8 @@ public final class OrderSettler {
         }
 
         boolean fail(int code, int position) {
-            errorCode = code;
-            errorPosition = position;
+            foundCode = code;
+            foundPosition = position;
             return false;
         }
 
@@ -1222,23 +1220,17 @@ public final class OrderSettler {
     }
 
     /** Reads the text of a map. */
-    private static final class MapReader {
-        private final TextReader text;
-
-        MapReader(TextReader text) {
-            this.text = text;
-        }
-
+    private static final class MapReader extends TextReader {
         /** Fills a board and a state; false if the text has an error. */
-        boolean readMap(int length, Board board, State state) {
+        boolean readMap(byte[] text, int length, Board board, State state) {
             board.clear();
             state.clear();
-            text.begin(length);
+            begin(text, length);
             for (int count = 0; count <= length; count++) {
-                if (text.isAtEnd()) {
+                if (isAtEnd()) {
                     return true;
                 }
-                if (!readStatement(board, state) || !text.takeSemicolon()) {
+                if (!readStatement(board, state) || !takeSemicolon()) {
                     return false;
                 }
             }
@@ -1246,70 +1238,70 @@ public final class OrderSettler {
         }
 
         private boolean readStatement(Board board, State state) {
-            int at = text.start;
-            if (text.take(Word.LAND)) {
+            int at = start;
+            if (take(Word.LAND)) {
                 return readArea(board, at, INLAND);
             }
-            if (text.take(Word.COAST)) {
+            if (take(Word.COAST)) {
                 return readArea(board, at, COASTAL);
             }
-            if (text.take(Word.SEA)) {
+            if (take(Word.SEA)) {
                 return readArea(board, at, AT_SEA);
             }
-            if (text.take(Word.BORDER)) {
+            if (take(Word.BORDER)) {
                 return readBorder(board);
             }
-            if (text.take(Word.POWER)) {
+            if (take(Word.POWER)) {
                 return readPower(board, state, at);
             }
-            if (text.take(Word.ARMY)) {
+            if (take(Word.ARMY)) {
                 return readUnit(board, state, at, ARMY);
             }
-            if (text.take(Word.FLEET)) {
+            if (take(Word.FLEET)) {
                 return readUnit(board, state, at, FLEET);
             }
-            return text.fail(SYNTAX, at);
+            return fail(SYNTAX, at);
         }
 
         private boolean readArea(Board board, int at, int kind) {
             if (board.areaCount >= MAX_AREAS) {
-                return text.fail(LIMIT, at);
+                return fail(LIMIT, at);
             }
-            int name = text.takeName();
+            int name = takeName();
             if (name == 0) {
                 return false;
             }
             if (board.findArea(name) != NONE) {
-                return text.fail(DUPLICATE, text.nameStart);
+                return fail(DUPLICATE, nameStart);
             }
-            int centerAt = text.start;
-            boolean center = text.take(Word.CENTER);
+            int centerAt = start;
+            boolean center = take(Word.CENTER);
             if (center && kind == AT_SEA) {
-                return text.fail(FORBIDDEN, centerAt);
+                return fail(FORBIDDEN, centerAt);
             }
             board.addArea(name, kind, center);
             return true;
         }
 
         private boolean readBorder(Board board) {
-            int one = text.takeArea(board);
+            int one = takeArea(board);
             if (one == NONE) {
                 return false;
             }
-            int other = text.takeArea(board);
+            int other = takeArea(board);
             if (other == NONE) {
                 return false;
             }
             if (one == other || board.hasBorder(one, other)) {
-                return text.fail(DUPLICATE, text.nameStart);
+                return fail(DUPLICATE, nameStart);
             }
-            int at = text.start;
-            boolean onlyArmies = text.take(Word.ARMY);
-            boolean onlyFleets = !onlyArmies && text.take(Word.FLEET);
+            int at = start;
+            boolean onlyArmies = take(Word.ARMY);
+            boolean onlyFleets = !onlyArmies && take(Word.FLEET);
             boolean armies = !onlyFleets && board.suits(one, ARMY) && board.suits(other, ARMY);
             boolean fleets = !onlyArmies && board.suits(one, FLEET) && board.suits(other, FLEET);
             if (!armies && !fleets) {
-                return text.fail(FORBIDDEN, onlyArmies || onlyFleets ? at : text.nameStart);
+                return fail(FORBIDDEN, onlyArmies || onlyFleets ? at : nameStart);
             }
             board.addBorder(one, other, armies, fleets);
             return true;
@@ -1317,18 +1309,18 @@ public final class OrderSettler {
 
         private boolean readPower(Board board, State state, int at) {
             if (board.powerCount >= MAX_POWERS) {
-                return text.fail(LIMIT, at);
+                return fail(LIMIT, at);
             }
-            int name = text.takeName();
+            int name = takeName();
             if (name == 0) {
                 return false;
             }
             if (board.findPower(name) != NONE) {
-                return text.fail(DUPLICATE, text.nameStart);
+                return fail(DUPLICATE, nameStart);
             }
             int power = board.addPower(name);
             // Each home is another area, so that a list longer than this has failed before.
-            for (int count = 0; count <= MAX_AREAS && text.isAtWord(); count++) {
+            for (int count = 0; count <= MAX_AREAS && isAtWord(); count++) {
                 if (!readHome(board, state, power)) {
                     return false;
                 }
@@ -1337,15 +1329,15 @@ public final class OrderSettler {
         }
 
         private boolean readHome(Board board, State state, int power) {
-            int area = text.takeArea(board);
+            int area = takeArea(board);
             if (area == NONE) {
                 return false;
             }
             if (entry(board.home, area) != NONE) {
-                return text.fail(DUPLICATE, text.nameStart);
+                return fail(DUPLICATE, nameStart);
             }
             if (!has(board.centers, area)) {
-                return text.fail(FORBIDDEN, text.nameStart);
+                return fail(FORBIDDEN, nameStart);
             }
             board.makeHome(area, power);
             state.giveCenter(area, power);
@@ -1354,25 +1346,25 @@ public final class OrderSettler {
 
         private boolean readUnit(Board board, State state, int at, int kind) {
             if (state.countAllUnits() >= MAX_UNITS) {
-                return text.fail(LIMIT, at);
+                return fail(LIMIT, at);
             }
-            int name = text.takeName();
+            int name = takeName();
             if (name == 0) {
                 return false;
             }
             int power = board.findPower(name);
             if (power == NONE) {
-                return text.fail(UNKNOWN, text.nameStart);
+                return fail(UNKNOWN, nameStart);
             }
-            int area = text.takeArea(board);
+            int area = takeArea(board);
             if (area == NONE) {
                 return false;
             }
             if (state.hasUnit(area)) {
-                return text.fail(DUPLICATE, text.nameStart);
+                return fail(DUPLICATE, nameStart);
             }
             if (!board.suits(area, kind)) {
-                return text.fail(FORBIDDEN, text.nameStart);
+                return fail(FORBIDDEN, nameStart);
             }
             state.placeUnit(area, power, kind);
             return true;
@@ -1380,21 +1372,15 @@ public final class OrderSettler {
     }
 
     /** Reads what is told in a turn: orders, retreats or builds, as the phase is. */
-    private static final class TurnReader {
-        private final TextReader text;
-
-        TurnReader(TextReader text) {
-            this.text = text;
-        }
-
+    private static final class TurnReader extends TextReader {
         /** Carries a text out on a state, and counts what it tells; NONE if it has an error. */
-        int readAll(int length, Board board, State state) {
-            text.begin(length);
+        int readAll(byte[] text, int length, Board board, State state) {
+            begin(text, length);
             for (int count = 0; count <= length; count++) {
-                if (text.isAtEnd()) {
+                if (isAtEnd()) {
                     return count;
                 }
-                if (!readOne(board, state) || !text.takeSemicolon()) {
+                if (!readOne(board, state) || !takeSemicolon()) {
                     return NONE;
                 }
             }
@@ -1408,144 +1394,144 @@ public final class OrderSettler {
             if (state.phase == IN_RETREATS) {
                 return readRetreat(board, state);
             }
-            if (text.take(Word.BUILD)) {
+            if (take(Word.BUILD)) {
                 return readBuild(board, state);
             }
-            return text.takeOrFail(Word.REMOVE) && readRemoval(board, state);
+            return takeOrFail(Word.REMOVE) && readRemoval(board, state);
         }
 
         private boolean readOrder(Board board, State state) {
-            int area = text.takeArea(board);
+            int area = takeArea(board);
             if (area == NONE) {
                 return false;
             }
             if (!state.hasUnit(area)) {
-                return text.fail(UNKNOWN, text.nameStart);
+                return fail(UNKNOWN, nameStart);
             }
-            if (text.take(Word.HOLD)) {
+            if (take(Word.HOLD)) {
                 state.giveOrder(area, HOLD, NONE, NONE);
                 return true;
             }
-            if (text.take(Word.TO)) {
+            if (take(Word.TO)) {
                 return readMove(board, state, area);
             }
-            if (text.take(Word.SUPPORT)) {
+            if (take(Word.SUPPORT)) {
                 return readSupport(board, state, area);
             }
-            return text.takeOrFail(Word.CONVOY) && readConvoy(board, state, area);
+            return takeOrFail(Word.CONVOY) && readConvoy(board, state, area);
         }
 
         private boolean readMove(Board board, State state, int area) {
-            int to = text.takeArea(board);
+            int to = takeArea(board);
             if (to == NONE) {
                 return false;
             }
             if (!state.allowsMove(board, area, to)) {
-                return text.fail(FORBIDDEN, text.nameStart);
+                return fail(FORBIDDEN, nameStart);
             }
             state.giveOrder(area, MOVE, to, NONE);
             return true;
         }
 
         private boolean readSupport(Board board, State state, int area) {
-            int first = text.takeArea(board);
+            int first = takeArea(board);
             if (first == NONE) {
                 return false;
             }
-            if (!text.take(Word.TO)) {
+            if (!take(Word.TO)) {
                 if (!state.allowsUnitSupport(board, area, first)) {
-                    return text.fail(FORBIDDEN, text.nameStart);
+                    return fail(FORBIDDEN, nameStart);
                 }
                 state.giveOrder(area, SUPPORT_UNIT, first, NONE);
                 return true;
             }
-            int to = text.takeArea(board);
+            int to = takeArea(board);
             if (to == NONE) {
                 return false;
             }
             if (!state.allowsMoveSupport(board, area, first, to)) {
-                return text.fail(FORBIDDEN, text.nameStart);
+                return fail(FORBIDDEN, nameStart);
             }
             state.giveOrder(area, SUPPORT_MOVE, first, to);
             return true;
         }
 
         private boolean readConvoy(Board board, State state, int area) {
-            int from = text.takeArea(board);
-            if (from == NONE || !text.takeOrFail(Word.TO)) {
+            int from = takeArea(board);
+            if (from == NONE || !takeOrFail(Word.TO)) {
                 return false;
             }
-            int to = text.takeArea(board);
+            int to = takeArea(board);
             if (to == NONE) {
                 return false;
             }
             if (!state.allowsConvoy(board, area, from, to)) {
-                return text.fail(FORBIDDEN, text.nameStart);
+                return fail(FORBIDDEN, nameStart);
             }
             state.giveOrder(area, CONVOY, from, to);
             return true;
         }
 
         private boolean readRetreat(Board board, State state) {
-            int area = text.takeArea(board);
+            int area = takeArea(board);
             if (area == NONE) {
                 return false;
             }
             if (!state.hasDislodged(area)) {
-                return text.fail(UNKNOWN, text.nameStart);
+                return fail(UNKNOWN, nameStart);
             }
-            if (text.take(Word.DISBAND)) {
+            if (take(Word.DISBAND)) {
                 state.giveRetreat(area, NONE);
                 return true;
             }
-            if (!text.takeOrFail(Word.TO)) {
+            if (!takeOrFail(Word.TO)) {
                 return false;
             }
-            int to = text.takeArea(board);
+            int to = takeArea(board);
             if (to == NONE) {
                 return false;
             }
             if (!state.allowsRetreat(board, area, to)) {
-                return text.fail(FORBIDDEN, text.nameStart);
+                return fail(FORBIDDEN, nameStart);
             }
             state.giveRetreat(area, to);
             return true;
         }
 
         private boolean readBuild(Board board, State state) {
-            int area = text.takeArea(board);
+            int area = takeArea(board);
             if (area == NONE) {
                 return false;
             }
             if (state.hasUnit(area)) {
-                return text.fail(DUPLICATE, text.nameStart);
+                return fail(DUPLICATE, nameStart);
             }
             if (!state.allowsBuild(board, area)) {
-                return text.fail(FORBIDDEN, text.nameStart);
+                return fail(FORBIDDEN, nameStart);
             }
-            int at = text.start;
-            boolean fleet = text.take(Word.FLEET);
-            if (!fleet && !text.takeOrFail(Word.ARMY)) {
+            int at = start;
+            boolean fleet = take(Word.FLEET);
+            if (!fleet && !takeOrFail(Word.ARMY)) {
                 return false;
             }
             int kind = fleet ? FLEET : ARMY;
             if (!board.suits(area, kind)) {
-                return text.fail(FORBIDDEN, at);
+                return fail(FORBIDDEN, at);
             }
             state.placeUnit(area, entry(board.home, area), kind);
             return true;
         }
 
         private boolean readRemoval(Board board, State state) {
-            int area = text.takeArea(board);
+            int area = takeArea(board);
             if (area == NONE) {
                 return false;
             }
             if (!state.hasUnit(area)) {
-                return text.fail(UNKNOWN, text.nameStart);
+                return fail(UNKNOWN, nameStart);
             }
             if (!state.needsRemoval(entry(state.unitPower, area))) {
-                return text.fail(FORBIDDEN, text.nameStart);
+                return fail(FORBIDDEN, nameStart);
             }
             state.placeUnit(area, NONE, NONE);
             return true;
@@ -1772,6 +1758,9 @@ public final class OrderSettler {
                         grown |= links.waters[a] & fleets;
                     }
                 }
+                if (grown == reached) {
+                    break;
+                }
                 reached = grown;
             }
             return (reached & entry(links.landing, area)) != 0;
@@ -1791,6 +1780,7 @@ public final class OrderSettler {
             return attack > resistanceTo(area) && attack > preventionOf(area);
         }
 
+        /** The strength of a move, or the hold of an area whose unit has none. */
         private int strengthOf(int area) {
             return 1 + Integer.bitCount(entry(links.backers, area) & given);
         }
@@ -1801,10 +1791,7 @@ public final class OrderSettler {
             }
             int goal = entry(links.goal, area);
             boolean leaves = (goal & success) != 0 && !has(links.opposed, area);
-            if ((goal & links.units) == 0 || leaves) {
-                return strengthOf(area);
-            }
-            int hosts = entry(links.hosts, area);
+            int hosts = leaves ? 0 : entry(links.hosts, area);
             if (has(hosts, area)) {
                 return 0;
             }
@@ -1834,16 +1821,6 @@ public final class OrderSettler {
                 }
             }
             return most;
-        }
-
-        private int holdOf(int area) {
-            if (!has(links.units, area)) {
-                return 0;
-            }
-            if (has(links.moves, area)) {
-                return has(success, area) ? 0 : 1;
-            }
-            return strengthOf(area);
         }
 
         // ---- what is told of the outcome that counts
@@ -1882,7 +1859,7 @@ public final class OrderSettler {
                 case 1:
                     return has(dislodged, area) ? 1 : 0;
                 case 2:
-                    return isMove ? strengthOf(area) : holdOf(area);
+                    return has(links.units, area) ? strengthOf(area) : 0;
                 case 3:
                     return isMove ? attackOf(area) : 0;
                 case 4:

@@ -12,6 +12,7 @@ final class BuildsTest {
         removalTexts();
         doneAtOnce();
         surplus();
+        surplusAtTheEnds();
         twelveUnits();
         lostHomes();
         noBuildsNeeded();
@@ -92,6 +93,7 @@ final class BuildsTest {
         g.refuses("remove a;remove b;remove ^c;", FORBIDDEN);
         Check.equal("nothing was removed", 3, g.settler.power(0, 1));
         Check.equal("removals", 2, g.tell("remove a;remove d;"));
+        Check.equal("no unit's kind", -1, g.settler.area(0, 5));
         Check.equal("units", "p A b\np A c\n", g.units());
         Check.equal("p must still remove", -1, g.settler.power(0, 3));
         g.refuses("build ^d army;", FORBIDDEN);
@@ -119,6 +121,22 @@ final class BuildsTest {
         Check.equal("units", "p A a\n", g.units());
         Check.equal("turn()", 3, g.settler.turn());
         Check.equal("undoCount()", 3, g.settler.undoCount());
+    }
+
+    /** Units at the first and at the last area are taken away as well. */
+    private static void surplusAtTheEnds() {
+        StringBuilder map = new StringBuilder();
+        for (char c = 'a'; c <= 'p'; c++) {
+            map.append("land ").append(c).append(";");
+        }
+        Game g = new Game(map + "power p;army p a;army p p;");
+        g.settler.settle();
+        g.settler.settle();
+        Check.equal("taken away", 2, g.settler.endBuilds());
+        Check.equal("units", "", g.units());
+        Check.equal("no unit's kind", -1, g.settler.area(0, 5));
+        Check.equal("no unit's kind at the end", -1, g.settler.area(15, 5));
+        Check.equal("the next turn", 0, g.settler.settle());
     }
 
     /** No power may build when there are twelve units. */

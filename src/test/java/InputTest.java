@@ -128,6 +128,14 @@ final class InputTest {
         Check.equal("one area", 0, g.load("land x;"));
         Check.equal("no home of before", -1, g.settler.area(0, 2));
         Check.equal("no owner of before", -1, g.settler.area(0, 3));
+        Game retreats = RetreatsTest.dislodged();
+        retreats.load("land x;");
+        Check.equal("ORDERS behind RETREATS", 0, retreats.settler.phase());
+        Game builds = BuildsTest.building();
+        builds.load("land x;land y;");
+        Check.equal("ORDERS behind BUILDS", 0, builds.settler.phase());
+        Check.equal("turn 1 behind BUILDS", 1, builds.settler.turn());
+        Check.equal("no center of before", 0, builds.settler.area(0, 1));
         g.load("coast x center;coast y center;power p;");
         Check.isFalse("no border of before", g.settler.passes(0, 1, false));
         Check.equal("no homes of before", 0, g.settler.power(0, 2));

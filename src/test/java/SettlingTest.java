@@ -19,6 +19,8 @@ final class SettlingTest {
         opposedMoves();
         opposedWithSupport();
         opposedDoesNotPrevent();
+        opposedPrevents();
+        manySupports();
         ring();
         brokenRing();
         chain();
@@ -28,6 +30,7 @@ final class SettlingTest {
         failedMoveHolds();
         bySea();
         farBySea();
+        longWay();
         brokenConvoy();
         noConvoy();
         otherWayRound();
@@ -37,7 +40,8 @@ final class SettlingTest {
         paradox();
         mostMovesCount();
         moreSupportsCount();
-        greatestNumberCounts();
+        moreSupportsThanTheOther();
+        greatestNumberAmongEquals();
         contestedAreas();
         errors();
         latestSettling();
@@ -206,6 +210,34 @@ final class SettlingTest {
         told(two, "d", 2, 0, 1, 1, 2, 0);
     }
 
+    /** Of two opposed moves that hold each other up each still prevents others with its strength. */
+    private static void opposedPrevents() {
+        String map = "land a;land b;land c;land d;land e;land f;border a b;border c b;border d a;border e a;border f a;"
+                + "power p;power q;power r;";
+        String units = "pAa qAb pAc rAd rAe qAf";
+        Game g = game(map, units, "a to b;b to a;c support a to b;f support b to a;d to a;e support d to a;");
+        settles(g, 0, 1);
+        told(g, "a", 2, 0, 2, 2, 2, 0);
+        told(g, "b", 2, 0, 2, 2, 2, 0);
+        told(g, "d", 2, 0, 2, 2, 3, 0);
+        Game less = game(map, units, "a to b;b to a;c support a to b;d to a;e support d to a;");
+        settles(less, 2, 1);
+        told(less, "d", 1, 0, 2, 2, 0, 0);
+    }
+
+    private static void manySupports() {
+        Game g = game(LAND, "pAa pAc qAd rAb", "a to b;c support a to b;d support a to b;");
+        settles(g, 1, 1);
+        told(g, "a", 1, 0, 3, 3, 0, 0);
+        Game hold = game(LAND, "pAa pAc qAd rAb", "c support b;d support b;a support b;");
+        settles(hold, 0, 1);
+        told(hold, "b", 5, 0, 4, 0, 0, 0);
+        // Of two moves against a supporter the one that comes from the goal cuts nothing.
+        Game cut = game(LAND, "pAc pAa qAb rAd", "a to b;c support a to b;b to c;d to c;");
+        settles(cut, 0, 1);
+        told(cut, "c", 4, 0, 1, 0, 0, 0);
+    }
+
     private static void ring() {
         Game g = game(LAND, "pAa qAb rAc", "a to b;b to c;c to a;");
         settles(g, 3, 2);
@@ -322,6 +354,21 @@ final class SettlingTest {
         }
     }
 
+    /** A long way over seas that are told before the coasts and after them. */
+    private static void longWay() {
+        String borders = "border a s;border s t;border t u;border u v;border v b;power p;";
+        String orders = "a to b;s convoy a to b;t convoy a to b;u convoy a to b;v convoy a to b;";
+        for (String areas : new String[] {"sea t;sea s;coast a;coast b;sea v;sea u;", "sea s;sea t;sea u;sea v;coast a;coast b;",
+            "coast b;sea v;sea u;sea t;sea s;coast a;", "sea v;sea u;sea t;coast b;coast a;sea s;"}) {
+            Game g = game(areas + borders, "pAa pFs pFt pFu pFv", orders);
+            settles(g, 1, 1);
+            told(g, "a", 1, 0, 1, 1, 0, 1);
+            Game less = game(areas + borders, "pAa pFs pFt pFv", orders.replace("u convoy a to b;", ""));
+            settles(less, 0, 1);
+            told(less, "a", 2, 0, 1, 0, 1, 0);
+        }
+    }
+
     private static void brokenConvoy() {
         Game g = game(SEA, "pAa pFs pFt qFc qFu qAd", "a to b;s convoy a to b;t convoy a to b;c to s;d hold;");
         settles(g, 1, 1);
@@ -407,6 +454,18 @@ final class SettlingTest {
                 "a to b;b support d;c support e to d;d convoy a to b;e to d;f to g;h convoy f to g;");
         settles(all, 0, 0);
         told(all, "f", 2, 0, 1, 0, 1, 0);
+        // In another turn they have theirs again.
+        all.settler.undo();
+        all.tell("b hold;");
+        settles(all, 2, 1);
+        told(all, "f", 1, 0, 1, 1, 0, 1);
+        // The other moves are settled without them.
+        Game direct = game("coast a;coast b;sea c;sea d;sea e;border a d;border b c;border b d;border c d;border c e;border d e;"
+                + "land f;land g;border f g;power p;power q;power r;", "pAa qFb qFc rFd qFe pAf",
+                "a to b;b support d;c support e to d;d convoy a to b;e to d;f to g;");
+        settles(direct, 1, 0);
+        told(direct, "f", 1, 0, 1, 1, 0, 0);
+        told(direct, "a", 2, 0, 1, 0, 1, 0);
     }
 
     private static void mostMovesCount() {
@@ -433,7 +492,7 @@ final class SettlingTest {
         told(g, "e", 5, 1, 1, 0, 0, 0);
     }
 
-    private static void greatestNumberCounts() {
+    private static void moreSupportsThanTheOther() {
         Game g = game("coast a;coast b;sea c;sea d;sea e;border a b fleet;border a c;border a e;border b c;border b d;"
                 + "border b e;border c d;border d e;power p;power q;power r;", "pFa rAb qFc pFd qFe",
                 "a support d to c;b to a;c convoy b to a;d to c;e support b to a;");
@@ -445,6 +504,29 @@ final class SettlingTest {
         told(g, "e", 3, 0, 1, 0, 0, 0);
     }
 
+    /** Of two convoys each hangs on the other one's end: the outcomes have equal moves and supports. */
+    private static void greatestNumberAmongEquals() {
+        String borders = "border a f;border f b;border c f;border d f;border g i;border i h;border j i;border k i;"
+                + "border b i;border h f;power p;power q;power r;power s;";
+        String units = "pAa qFb sFc sFd rFf pAg qFh rFi sFj sFk";
+        String orders = "a to b;f convoy a to b;b support i;c to f;d support c to f;"
+                + "g to h;i convoy g to h;h support f;j to i;k support j to i;";
+        String areas = "coast a;coast b;sea c;sea d;sea f;coast g;coast h;sea i;sea j;sea k;";
+        Game g = game(areas + borders, units, orders);
+        settles(g, 1, 2);
+        told(g, "j", 1, 0, 2, 2, 0, 0);
+        told(g, "i", 5, 1, 1, 0, 0, 0);
+        told(g, "c", 2, 0, 2, 2, 2, 0);
+        told(g, "a", 2, 0, 1, 1, 2, 1);
+        told(g, "g", 2, 0, 1, 0, 1, 0);
+        // The same with the areas told the other way round.
+        String back = "sea k;sea j;sea i;coast h;coast g;sea f;sea d;sea c;coast b;coast a;";
+        Game other = game(back + borders, units, orders);
+        settles(other, 1, 2);
+        told(other, "c", 1, 0, 2, 2, 0, 0);
+        told(other, "j", 2, 0, 2, 2, 2, 0);
+    }
+
     private static void contestedAreas() {
         // An area that a unit leaves is contested if others meet there.
         Game g = game(LAND, "pAa qAb rAc", "b to e;a to b;c to b;");
@@ -454,6 +536,15 @@ final class SettlingTest {
         Check.isFalse("stayed at", g.settler.isContested(0));
         g.settler.settle();
         Check.isFalse("not contested behind the next settling", g.settler.isContested(1));
+        Game two = game("land a;land b;land c;land d;land e;border a b;border b c;border c d;border d e;border e a;"
+                + "border c e;power p;", "pAa pAb pAd", "a to e;d to e;b hold;");
+        settles(two, 0, 1);
+        Check.isTrue("one", two.settler.isContested(4));
+        Game both = game("land a;land b;land c;land d;land e;land f;border a b;border c b;border d e;border f e;power p;",
+                "pAa pAc pAd pAf", "a to b;c to b;d to e;f to e;");
+        settles(both, 0, 1);
+        Check.isTrue("one of two", both.settler.isContested(1));
+        Check.isTrue("the other one", both.settler.isContested(4));
         for (int area : new int[] {-1, 5, 16, Integer.MIN_VALUE, Integer.MAX_VALUE}) {
             Check.fails("isContested " + area, NoSuchElementException.class, () -> g.settler.isContested(area) ? 1 : 0);
         }
