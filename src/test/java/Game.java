@@ -11,6 +11,19 @@ final class Game {
         load(map);
     }
 
+    /** A map with as many areas before its own as there may be, which are the last ones then. */
+    static String withAreasBefore(String map) {
+        int own = 0;
+        for (String statement : map.split(";")) {
+            own += statement.strip().matches("(land|coast|sea) .*") ? 1 : 0;
+        }
+        StringBuilder text = new StringBuilder();
+        for (int i = own; i < 16; i++) {
+            text.append("land xx").append((char) ('a' + i)).append(";");
+        }
+        return text + map;
+    }
+
     /** Feeds a text, filled up with a byte that no text may have. */
     void feed(String text) {
         feed(settler, text.getBytes(StandardCharsets.ISO_8859_1));

@@ -7,7 +7,20 @@ final class SettlingTest {
             + "border a b;border a c;border a d;border b c;border b d;border c d;border d e;border b e;"
             + "power p;power q;power r;";
 
+    /** Whether the areas of a game are the last ones of sixteen. */
+    private static boolean last = false;
+
     public static void main(String[] args) {
+        everyCase();
+        last = true;
+        everyCase();
+        last = false;
+        errors();
+        latestSettling();
+        Check.end("SettlingTest");
+    }
+
+    private static void everyCase() {
         emptyGoal();
         bounce();
         supportedMove();
@@ -43,14 +56,11 @@ final class SettlingTest {
         moreSupportsThanTheOther();
         greatestNumberAmongEquals();
         contestedAreas();
-        errors();
-        latestSettling();
-        Check.end("SettlingTest");
     }
 
     /** A game with units, each told as its power, kind and area: "pAa" is p's army at a. */
     private static Game game(String map, String units, String orders) {
-        StringBuilder text = new StringBuilder(map);
+        StringBuilder text = new StringBuilder(last ? Game.withAreasBefore(map) : map);
         for (String unit : units.split(" ")) {
             text.append(unit.charAt(1) == 'A' ? "army " : "fleet ").append(unit.charAt(0)).append(' ')
                     .append(unit.charAt(2)).append(";");
@@ -58,6 +68,10 @@ final class SettlingTest {
         Game g = new Game(text.toString());
         g.tell(orders);
         return g;
+    }
+
+    private static boolean isContested(Game g, String area) {
+        return g.settler.isContested(g.at(area));
     }
 
     private static void settles(Game g, int moves, int outcomes) {
@@ -88,7 +102,7 @@ final class SettlingTest {
         told(g, "a", 2, 0, 1, 1, 3, 0);
         told(g, "c", 2, 0, 1, 1, 3, 0);
         told(g, "b", 0, 0, 0, 0, 0, 0);
-        Check.isTrue("contested", g.settler.isContested(1));
+        Check.isTrue("contested", isContested(g, "b"));
         Check.equal("units", "p A a\nq A c\n", g.units());
         // Units of one power are in each other's way as well.
         settles(game(LAND, "pAa pAc", "a to b;c to b;"), 0, 1);
@@ -101,7 +115,7 @@ final class SettlingTest {
         told(g, "b", 5, 1, 1, 0, 0, 0);
         told(g, "c", 3, 0, 1, 0, 0, 0);
         Check.equal("phase()", 1, g.settler.phase());
-        Check.isFalse("contested", g.settler.isContested(1));
+        Check.isFalse("contested", isContested(g, "b"));
     }
 
     private static void heldBySupport() {
@@ -110,7 +124,7 @@ final class SettlingTest {
         told(g, "a", 2, 0, 2, 2, 2, 0);
         told(g, "b", 5, 0, 2, 0, 0, 0);
         told(g, "d", 3, 0, 1, 0, 0, 0);
-        Check.isFalse("no area is contested where a unit is", g.settler.isContested(1));
+        Check.isFalse("no area is contested where a unit is", isContested(g, "b"));
         // Supports and convoys hold with the supports for them, too.
         Game mutual = game(LAND, "qAb qAd pAa pAc", "b support d;d support b;a to b;c support a to b;");
         settles(mutual, 0, 1);
@@ -189,7 +203,7 @@ final class SettlingTest {
         settles(g, 1, 1);
         told(g, "a", 1, 0, 2, 2, 0, 0);
         told(g, "b", 2, 1, 1, 1, 2, 0);
-        Check.equal("the dislodged unit", 1, g.settler.area(1, 6));
+        Check.equal("the dislodged unit", 1, g.settler.area(g.at("b"), 6));
         Game equal = game(LAND, "pAa pAc qAb qAd", "a to b;b to a;c support a to b;d support b to a;");
         settles(equal, 0, 1);
         told(equal, "a", 2, 0, 2, 2, 2, 0);
@@ -337,7 +351,7 @@ final class SettlingTest {
         Game met = game(SEA, "pAa pFu qFt", "a to b;u convoy a to b;t to b;");
         settles(met, 0, 1);
         told(met, "a", 2, 0, 1, 1, 3, 1);
-        Check.isTrue("contested by a move by sea", met.settler.isContested(1));
+        Check.isTrue("contested by a move by sea", isContested(met, "b"));
     }
 
     private static void farBySea() {
@@ -350,7 +364,7 @@ final class SettlingTest {
             Game less = game(SEA, "pAa pFs qFt", orders);
             settles(less, 0, 1);
             told(less, "a", 2, 0, 1, 0, 1, 0);
-            Check.isFalse("not contested without a path", less.settler.isContested(1));
+            Check.isFalse("not contested without a path", isContested(less, "b"));
         }
     }
 
@@ -379,7 +393,7 @@ final class SettlingTest {
         told(broken, "a", 2, 0, 1, 0, 1, 0);
         told(broken, "s", 5, 1, 1, 0, 0, 0);
         told(broken, "c", 1, 0, 2, 2, 0, 0);
-        Check.isFalse("not contested without a path", broken.settler.isContested(1));
+        Check.isFalse("not contested without a path", isContested(broken, "b"));
     }
 
     private static void noConvoy() {
@@ -447,7 +461,7 @@ final class SettlingTest {
         told(g, "c", 3, 0, 1, 0, 0, 0);
         told(g, "d", 5, 0, 2, 0, 0, 0);
         told(g, "e", 2, 0, 2, 2, 2, 0);
-        Check.isFalse("not contested without a path", g.settler.isContested(1));
+        Check.isFalse("not contested without a path", isContested(g, "b"));
         // All moves by sea have no path then, also one that has nothing to do with it.
         Game all = game("coast a;coast b;sea c;sea d;sea e;border a d;border b c;border b d;border c d;border c e;border d e;"
                 + "coast f;coast g;sea h;border f h;border g h;power p;power q;power r;", "pAa qFb qFc rFd qFe pAf pFh",
@@ -531,23 +545,20 @@ final class SettlingTest {
         // An area that a unit leaves is contested if others meet there.
         Game g = game(LAND, "pAa qAb rAc", "b to e;a to b;c to b;");
         settles(g, 1, 1);
-        Check.isTrue("left and contested", g.settler.isContested(1));
-        Check.isFalse("entered", g.settler.isContested(4));
-        Check.isFalse("stayed at", g.settler.isContested(0));
+        Check.isTrue("left and contested", isContested(g, "b"));
+        Check.isFalse("entered", isContested(g, "e"));
+        Check.isFalse("stayed at", isContested(g, "a"));
         g.settler.settle();
-        Check.isFalse("not contested behind the next settling", g.settler.isContested(1));
+        Check.isFalse("not contested behind the next settling", isContested(g, "b"));
         Game two = game("land a;land b;land c;land d;land e;border a b;border b c;border c d;border d e;border e a;"
                 + "border c e;power p;", "pAa pAb pAd", "a to e;d to e;b hold;");
         settles(two, 0, 1);
-        Check.isTrue("one", two.settler.isContested(4));
+        Check.isTrue("one", isContested(two, "e"));
         Game both = game("land a;land b;land c;land d;land e;land f;border a b;border c b;border d e;border f e;power p;",
                 "pAa pAc pAd pAf", "a to b;c to b;d to e;f to e;");
         settles(both, 0, 1);
-        Check.isTrue("one of two", both.settler.isContested(1));
-        Check.isTrue("the other one", both.settler.isContested(4));
-        for (int area : new int[] {-1, 5, 16, Integer.MIN_VALUE, Integer.MAX_VALUE}) {
-            Check.fails("isContested " + area, NoSuchElementException.class, () -> g.settler.isContested(area) ? 1 : 0);
-        }
+        Check.isTrue("one of two", isContested(both, "b"));
+        Check.isTrue("the other one", isContested(both, "e"));
     }
 
     private static void errors() {
@@ -565,6 +576,7 @@ final class SettlingTest {
         }
         for (int area : new int[] {-1, 5, 16, Integer.MIN_VALUE, Integer.MAX_VALUE}) {
             Check.fails("area " + area, NoSuchElementException.class, () -> g.settler.result(area, 0));
+            Check.fails("isContested " + area, NoSuchElementException.class, () -> g.settler.isContested(area) ? 1 : 0);
         }
         g.settler.undo();
         Check.fails("result of an undone settling", IllegalStateException.class, () -> g.settler.result(0, 0));
