@@ -23,6 +23,7 @@ final class SettlingEdgesTest {
         contestedByOneMove();
         contestedNotWithAUnit();
         ringsOfEveryLength();
+        ringsBesideEachOther();
         resultsByTheAreasBefore();
         nothingWasSettled();
         outcomesBeforeTheSeaWasClosed();
@@ -379,6 +380,22 @@ final class SettlingEdgesTest {
         Game two = game("land a;land b;border a b;power p;power q;army p a;army q b;", "a to b;b to a;");
         Check.equal("two are no ring", 0, two.settler.settle());
         Check.equal("its outcomes", 1, two.settler.outcomes());
+    }
+
+    /** "Returns the number of consistent outcomes": each of the rings may move or stay. */
+    private static void ringsBesideEachOther() {
+        for (int rings = 0; rings <= 4; rings++) {
+            StringBuilder map = new StringBuilder(areas("land ", 0, 12, ";"));
+            StringBuilder orders = new StringBuilder();
+            for (int i = 0; i < 3 * rings; i++) {
+                String step = (char) ('a' + i) + " @ " + (char) ('a' + (i % 3 == 2 ? i - 2 : i + 1)) + ";";
+                map.append("border ").append(step.replace("@ ", ""));
+                orders.append(step.replace("@", "to"));
+            }
+            Game g = game(map + "power p;" + areas("army p ", 0, 12, ";"), orders.toString());
+            Check.equal(rings + " rings", 3 * rings, g.settler.settle());
+            Check.equal("outcomes of " + rings + " rings", 1 << rings, g.settler.outcomes());
+        }
     }
 
     /** "Reports on the latest settling, by the areas where units were." */
