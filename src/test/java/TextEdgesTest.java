@@ -49,6 +49,7 @@ final class TextEdgesTest {
         wholeOrNotAtAll();
         latestError();
         namesOfAreas();
+        namesOfAreasAndPowers();
         Check.end("TextEdgesTest");
     }
 
@@ -496,5 +497,20 @@ final class TextEdgesTest {
         Check.fails("named of 21", RANGE, () -> g.settler.named(21));
         Check.equal("the first bytes alone", 14, g.settler.named(2));
         Check.fails("the buffer is empty", RANGE, () -> g.settler.named(1));
+    }
+
+    /** "No two areas have the same name, and no two powers": an area and a power may, whichever is told first. */
+    private static void namesOfAreasAndPowers() {
+        Game g = new Game();
+        Check.equal("powers first", 2, g.load("power p;power q;land q center;land p;border p q;army q p;army p q;"));
+        Check.equal("units", "p A q\nq A p\n", g.units());
+        Check.equal("the area", 1, g.at("p"));
+        Check.equal("told", 1, g.tell("p to q;"));
+        Check.equal("orders", "q hold;\np to q;\n", g.orders());
+        Check.equal("areas first", 1, g.load("land a center;land b;power b a;power a;army a b;"));
+        Check.equal("units", "a A b\n", g.units());
+        Check.equal("home", 0, g.settler.area(0, 2));
+        g.refusesMap("power p;power q;land p;power ^p;", DUPLICATE);
+        g.refusesMap("power p;land p;land ^p;", DUPLICATE);
     }
 }
